@@ -32,6 +32,17 @@ final class Checks {
         dueText(what + ", what is seen after it", View.of(x), before);
     }
 
+    /** The draft must be taken for its role, or its offer be refused so. */
+    void refusedUnless(boolean taken, String what, Class<? extends RuntimeException> want, TrustedUpdates x) {
+        if (!taken) {
+            refused(what, want, x, x::offer);
+            return;
+        }
+        dueText(what, answerOf(x::offer), Integer.toString(x.at(0)));
+        due(what + ": the version", x.trusted(x.at(0), false), x.at(1));
+        due(what + ": the end", x.trusted(x.at(0), true), x.at(2) << 8 | x.at(3));
+    }
+
     static String answerOf(LongSupplier call) {
         try {
             return Long.toString(call.getAsLong());
