@@ -389,7 +389,6 @@ public final class TrustedUpdates {
 
         void clear() {
             whole = false;
-            bare = false;
         }
 
         void read(Row from) {
@@ -757,8 +756,6 @@ public final class TrustedUpdates {
         Search(Trust trust) {
             this.trust = trust;
             name = new Row(NAME_LIMIT);
-            foundRole = NONE;
-            foundPlace = NONE;
         }
 
         int visitCount() {
@@ -781,7 +778,6 @@ public final class TrustedUpdates {
             visitedRoles = 0;
             visitCount = 0;
             foundRole = NONE;
-            foundPlace = NONE;
             over = false;
             visit(TARGETS, 0);
         }

@@ -171,6 +171,19 @@ public final class DraftTest {
         CHECKS.due("content() of nothing again", x.content(), 0);
         x.digest();
         CHECKS.due("the digest of no content", x.at(0) | x.at(1) | x.at(2) | x.at(3), 0);
+        fullContent();
+    }
+
+    private static void fullContent() {
+        TrustedUpdates x = new TrustedUpdates();
+        for (int i = 0; i < 15; i++) {
+            x.put(0x0102030405060708L * (i + 1), 8);
+        }
+        int digest = x.mix(0);
+        CHECKS.due("content() of 120", x.content(), 120);
+        x.cut(0);
+        x.digest();
+        CHECKS.due("the digest of 120", x.at(0) << 24 | x.at(1) << 16 | x.at(2) << 8 | x.at(3), digest);
     }
 
     private DraftTest() {

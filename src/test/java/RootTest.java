@@ -195,6 +195,7 @@ public final class RootTest {
         afterRoot("exchanged keys", true, Doc.root(2, 900, K0, K2, K1, K3));
         thresholdAlone();
         fewerKeys();
+        laterKeys();
     }
 
     private static void afterRoot(String what, boolean forgets, Doc next) {
@@ -225,6 +226,22 @@ public final class RootTest {
             CHECKS.due("a threshold alone", next.signed(0).offerTo(world.x), 0);
             CHECKS.due("the stamp", world.x.trusted(1, false), TrustedUpdates.NONE);
             CHECKS.due("the snapshot", world.x.trusted(2, false), TrustedUpdates.NONE);
+        }
+    }
+
+    /** Each key of a set counts, not only those that the threshold would ask for. */
+    private static void laterKeys() {
+        int[] before = Doc.keys(1, 1, 2, 4, 7);
+        for (int[] after : new int[][] {before, Doc.keys(1, 1, 2, 4, 8), Doc.keys(1, 1, 2, 5, 7), Doc.keys(1, 1, 3, 4, 7)}) {
+            for (int role = 1; role <= 2; role++) {
+                World world = new World();
+                Doc.root(1, 900, K0, before, before, K3).signed().beginIn(world.x);
+                world.offerSnapshot(1, 900, World.snapshot(1, 3, 1));
+                Doc next = Doc.root(2, 900, K0, role == 1 ? after : before, role == 2 ? after : before, K3);
+                CHECKS.due("a later key", next.signed(0).offerTo(world.x), 0);
+                CHECKS.due("the stamp", world.x.trusted(1, false), after == before ? 1 : TrustedUpdates.NONE);
+                CHECKS.due("the snapshot", world.x.trusted(2, false), after == before ? 1 : TrustedUpdates.NONE);
+            }
         }
     }
 
