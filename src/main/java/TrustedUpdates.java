@@ -387,6 +387,7 @@ public final class TrustedUpdates {
             return row.byteAt(signedSize);
         }
 
+        /** What is not whole is never asked for its parts, so they may stay. */
         void clear() {
             whole = false;
         }

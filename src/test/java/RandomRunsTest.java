@@ -112,7 +112,8 @@ public final class RandomRunsTest {
     }
 
     private void offer(Doc doc) {
-        Doc brought = oneIn(12) && doc.bytes.length > 0 ? doc.altered(random.nextInt(doc.bytes.length), random.nextInt(12)) : doc;
+        boolean spoiled = oneIn(12);
+        Doc brought = spoiled ? doc.altered(random.nextInt(doc.bytes.length), random.nextInt(12)) : doc;
         kept.add(brought);
         draft(brought);
         if (oneIn(30)) {

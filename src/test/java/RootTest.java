@@ -137,7 +137,8 @@ public final class RootTest {
         offerNext("others", false, next.signed(1, 2, 3));
         offerNext("none", false, next.signed());
         Doc wrong = next.signed(0, 5);
-        offerNext("a wrong signature", false, wrong.altered(wrong.bytes.length - 1, wrong.bytes[wrong.bytes.length - 1] ^ 1));
+        int last = wrong.bytes.length - 1;
+        offerNext("a wrong signature", false, wrong.altered(last, wrong.bytes[last] ^ 1));
         offerNext("a signed part changed", false, wrong.altered(3, 10));
         Doc exchanged = wrong.altered(next.bytes.length + 1, 5).altered(next.bytes.length + 6, 0);
         offerNext("signatures under each other's key", false, exchanged);
