@@ -116,16 +116,25 @@ final class Doc {
         return new Doc(Arrays.copyOf(bytes, size));
     }
 
+    int role() {
+        return bytes[0];
+    }
+
+    /** The n bytes from a place on, as put() takes them. */
+    long wordAt(int from, int n) {
+        long w = 0;
+        for (int i = n - 1; i >= 0; i--) {
+            w = w << 8 | bytes[from + i];
+        }
+        return w;
+    }
+
     /** Makes it the draft. */
     void draftIn(TrustedUpdates x) {
         x.cut(0);
         for (int i = 0; i < bytes.length; i += 8) {
             int n = Math.min(8, bytes.length - i);
-            long w = 0;
-            for (int j = n - 1; j >= 0; j--) {
-                w = w << 8 | bytes[i + j];
-            }
-            if (!x.put(w, n)) {
+            if (!x.put(wordAt(i, n), n)) {
                 throw new AssertionError("the draft does not take " + bytes.length + " bytes");
             }
         }

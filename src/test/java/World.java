@@ -20,6 +20,11 @@ final class World {
         snapshot.offerTo(x);
     }
 
+    /** A signed stamp for a snapshot. */
+    static Doc stampOf(int version, Doc snapshot) {
+        return Doc.stampFor(version, END, snapshot).signed(1);
+    }
+
     static Doc snapshot(int version, int... rolesAndVersions) {
         return Doc.snapshot(version, END, rolesAndVersions).signed(2);
     }
