@@ -18,7 +18,8 @@ public final class DraftTest {
     private static void newObject() {
         TrustedUpdates x = new TrustedUpdates();
         CHECKS.dueText("a new object", View.of(x),
-                "draft; trusted -1/-1 -1/-1 -1/-1 -1/-1 -1/-1 -1/-1 -1/-1; clock 0; visits 0; installed 0");
+                "draft 0 0 " + 0x9E3779B9 + "; trusted -1/-1 -1/-1 -1/-1 -1/-1 -1/-1 -1/-1 -1/-1; clock 0; visits 0;"
+                        + " installed 0");
         CHECKS.due("digest() of a new object", x.digest(), true);
         CHECKS.due("the digest of no content", x.at(0) | x.at(1) | x.at(2) | x.at(3), 0);
         TrustedUpdates other = new TrustedUpdates();

@@ -27,7 +27,8 @@ public final class Promise12BeginTest {
     }
 
     static void anOlderOrTheSameRootIsTrusted() {
-        new Run().begins(World.root(7, 300).signed()).begins(World.root(7, 200).signed()).due(Call.trusted(0, true), 200)
+        new Run().begins(World.root(7, 300).signed()).begins(World.root(7, 200).signed())
+                .due(Call.trusted(0, true), 200)
                 .begins(World.root(1, 100).signed()).due(Call.trusted(0, false), 1);
     }
 

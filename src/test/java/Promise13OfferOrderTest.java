@@ -22,7 +22,8 @@ public final class Promise13OfferOrderTest {
     }
 
     private static Doc[] signedAndRight() {
-        return new Doc[] {World.stampOf(2, NEXT), NEXT, World.empty(3, 2, 500).signed(3), World.empty(4, 2, 500).signed()};
+        return new Doc[] {World.stampOf(2, NEXT), NEXT, World.empty(3, 2, 500).signed(3),
+            World.empty(4, 2, 500).signed()};
     }
 
     static void malformedComesBeforeNoRoot() {
@@ -96,7 +97,8 @@ public final class Promise13OfferOrderTest {
     }
 
     static void noVersionForTheRoleComesBeforeItsEnd() {
-        Run.withSnapshot(World.snapshot(1, 3, 1)).refuses(IndexOutOfBoundsException.class, World.empty(4, 1, 0).signed());
+        Run.withSnapshot(World.snapshot(1, 3, 1))
+                .refuses(IndexOutOfBoundsException.class, World.empty(4, 1, 0).signed());
     }
 
     static void notSignedComesBeforeAWrongVersion() {

@@ -215,6 +215,14 @@ public final class Promise13OfferRootTest {
                 .takes(Doc.root(2, 500, K0, four, four, K3).signed(0)).trusts(1, 1, 2);
     }
 
+    static void theSameSetsWithTheFirstAndTheLastKeyKeepAll() {
+        int[] ends = Doc.keys(1, 0, 9);
+        Doc snapshot = Doc.snapshot(1, 500, 3, 1).signed(9);
+        new Run().begins(Doc.root(1, 500, K0, ends, ends, K3).signed())
+                .takes(Doc.stampFor(1, 500, snapshot).signed(0)).takes(snapshot)
+                .takes(Doc.root(2, 500, K0, ends, ends, K3).signed(0)).trusts(1, 1, 2);
+    }
+
     static void otherRootKeysKeepAll() {
         keeps(root(2, Doc.keys(1, 0, 9)));
     }

@@ -80,7 +80,8 @@ public final class Promise13OfferStampTest {
     }
 
     static void version1After255IsRefused() {
-        Run.withRoot().takes(stamp(255, 7)).refuses(UnsupportedOperationException.class, stamp(1, 7)).takes(stamp(255, 8));
+        Run.withRoot().takes(stamp(255, 7)).refuses(UnsupportedOperationException.class, stamp(1, 7))
+                .takes(stamp(255, 8));
     }
 
     // "nor the snapshot's version in it than in that one"

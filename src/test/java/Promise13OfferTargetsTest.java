@@ -81,7 +81,8 @@ public final class Promise13OfferTargetsTest {
     }
 
     static void aRoleBetweenThoseOfTheSnapshotIsRefused() {
-        Run.withSnapshot(World.snapshot(1, 3, 7, 4, 7, 6, 7)).refuses(IndexOutOfBoundsException.class, document(5, 7, 500))
+        Run.withSnapshot(World.snapshot(1, 3, 7, 4, 7, 6, 7))
+                .refuses(IndexOutOfBoundsException.class, document(5, 7, 500))
                 .takes(document(4, 7, 500)).takes(document(6, 7, 500));
     }
 
@@ -178,6 +179,20 @@ public final class Promise13OfferTargetsTest {
                 .takes(document(3, 7, 400)).finds("a", TrustedUpdates.NONE, 1);
     }
 
+    static void nothingElseChanges() {
+        Doc targets = World.targets(7, new int[][] {Doc.targetOf("a")}, World.NO);
+        sevens().takes(targets).due(Call.install("a"), 3).due(Call.tick(9), 9).keeps(5).takes(targets)
+                .hasDraft(targets.bytes).due(Call.tick(0), 9).due(Call.visits(), 1).due(Call.installed(), 1)
+                .trusts(1, 0, 1, 2).trustsNone(4, 5, 6)
+                .does(Call.cut(0), Call.digest()).hasDraft(Doc.word(Doc.mix(new int[] {5}, 1, 0)));
+    }
+
+    static void theDraftCanBeAlteredAfterItIsTaken() {
+        sevens().takes(World.targets(7, new int[][] {Doc.targetOf("a")}, World.NO))
+                .does(Call.alter(1, 9), Call.alter(6, 'b'), Call.cut(7)).trusts(7, 3).finds("a", 3, 1)
+                .finds("b", TrustedUpdates.NONE, 1);
+    }
+
     static void anotherRolesDocumentStays() {
         sevens().takes(document(4, 7, 400)).takes(document(5, 7, 300)).due(Call.trusted(4, true), 400);
     }
@@ -185,7 +200,8 @@ public final class Promise13OfferTargetsTest {
     // "It must not have ended."
     static void atItsEndItIsRefused() {
         for (int role = 3; role <= 6; role++) {
-            sevens().due(Call.tick(50), 50).refuses(NoSuchElementException.class, document(role, 7, 50)).trustsNone(role);
+            sevens().due(Call.tick(50), 50).refuses(NoSuchElementException.class, document(role, 7, 50))
+                    .trustsNone(role);
         }
     }
 

@@ -48,7 +48,8 @@ public final class Promise15SeekDelegatesTest {
 
     // "in order"
     static void theFirstDelegationThatFindsItCounts() {
-        new Net().role(3, NO, to(6, ""), to(4, ""), to(5, "")).role(4, names("a")).role(5, names("a")).role(6, names("b"))
+        new Net().role(3, NO, to(6, ""), to(4, ""), to(5, "")).role(4, names("a")).role(5, names("a"))
+                .role(6, names("b"))
                 .finds("a", 4, 3).finds("b", 6, 2).missing("c", 4);
     }
 
@@ -225,7 +226,8 @@ public final class Promise15SeekDelegatesTest {
     }
 
     static void aFinalDelegationAboveLetsTheDepthBeSought() {
-        new Net().role(3, NO, finallyTo(4, ""), to(6, "")).role(4, NO, to(5, "")).role(5, names("a")).role(6, names("b"))
+        new Net().role(3, NO, finallyTo(4, ""), to(6, "")).role(4, NO, to(5, "")).role(5, names("a"))
+                .role(6, names("b"))
                 .finds("a", 5, 3).missing("b", 3);
     }
 

@@ -131,10 +131,11 @@ public final class Promise15SeekTest {
 
     static void anEndedRootInPlaceOfALivingOneRefusesIt() {
         client().due(Call.tick(50), 50).takes(World.root(2, 50).signed(0))
-                .refuses(IllegalStateException.class, Call.seek("a")).takes(World.root(3, 51).signed(0)).finds("a", 3, 1);
+                .refuses(IllegalStateException.class, Call.seek("a")).takes(World.root(3, 51).signed(0))
+                .finds("a", 3, 1);
     }
 
-    // "or the TARGETS are not fresh": "if it is trusted, has not ended, and its version is that which .. the snapshot says"
+    // "or the TARGETS are not fresh": "trusted, has not ended, and its version is that which the trusted snapshot says"
     static void withoutTargetsItIsRefused() {
         Run.withEveryRole().refuses(IllegalStateException.class, Call.seek("a"));
     }
@@ -145,7 +146,8 @@ public final class Promise15SeekTest {
 
     static void targetsOneVersionBelowTheSnapshotRefuseIt() {
         Doc next = World.snapshot(2, 3, 2, 4, 1, 5, 1, 6, 1);
-        client().takes(World.stampOf(2, next)).takes(next).trusts(1, 3).refuses(IllegalStateException.class, Call.seek("a"))
+        client().takes(World.stampOf(2, next)).takes(next).trusts(1, 3)
+                .refuses(IllegalStateException.class, Call.seek("a"))
                 .takes(World.targets(2, Net.names("a"), World.NO)).finds("a", 3, 1);
     }
 

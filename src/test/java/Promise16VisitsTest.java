@@ -9,7 +9,8 @@ public final class Promise16VisitsTest {
     /** The name a is found in one visit, ab in three; abc is in none of the three; b has another content. */
     private static Run client() {
         int[][] others = {Doc.targetOf("a"), Doc.target("b", 1, 1)};
-        return new Net().role(3, others, Net.to(4, "a")).role(4, World.NO, Net.to(5, "ab")).role(5, Net.names("ab")).run;
+        return new Net().role(3, others, Net.to(4, "a")).role(4, World.NO, Net.to(5, "ab")).role(5, Net.names("ab"))
+                .run;
     }
 
     static void areNoneBeforeTheFirstSeek() {
@@ -65,7 +66,8 @@ public final class Promise16VisitsTest {
     }
 
     static void stayWhenInstallHasOtherContent() {
-        client().finds("ab", 5, 3).refuses(UnsupportedOperationException.class, Call.install("b")).due(Call.visits(), 3);
+        client().finds("ab", 5, 3).refuses(UnsupportedOperationException.class, Call.install("b"))
+                .due(Call.visits(), 3);
     }
 
     static void stayWithAllOtherCalls() {

@@ -61,7 +61,8 @@ public final class Promise17InstallTest {
     }
 
     static void theContentStaysAndCanBeInstalledAgain() {
-        client().due(Call.install("a"), 3).due(Call.install("ab"), 4).due(Call.install("a"), 3).due(Call.installed(), 3);
+        client().due(Call.install("a"), 3).due(Call.install("ab"), 4).due(Call.install("a"), 3)
+                .due(Call.installed(), 3);
     }
 
     // "IllegalArgumentException .. as for seek"
@@ -179,7 +180,8 @@ public final class Promise17InstallTest {
     }
 
     static void theDraftInPlaceOfTheContentIsRefused() {
-        saying(3, DIGEST).keeps(9).draft(new Doc(CONTENT)).refuses(UnsupportedOperationException.class, Call.install("a"));
+        saying(3, DIGEST).keeps(9).draft(new Doc(CONTENT))
+                .refuses(UnsupportedOperationException.class, Call.install("a"));
     }
 
     static void onlyTheTargetThatIsFoundFirstCounts() {

@@ -62,7 +62,8 @@ final class Run {
 
     private void mustBe(Call call, String got, String want) {
         if (!got.equals(want)) {
-            throw new AssertionError("call " + calls.size() + ", " + call.text() + " answered " + got + ", due is " + want);
+            throw new AssertionError("call " + calls.size() + ", " + call.text() + " answered " + got + ", due is "
+                    + want);
         }
     }
 

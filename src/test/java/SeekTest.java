@@ -71,23 +71,30 @@ public final class SeekTest {
     }
 
     private static void refusesWhatIsNoName() {
-        World world = all();
-        World.targets(1, names("a"), World.NO).offerTo(world.x);
-        world.seek("a");
         for (int n : new int[] {0, -1, 5, 8, 257, Integer.MIN_VALUE, Integer.MAX_VALUE}) {
-            CHECKS.refused("n " + n, IllegalArgumentException.class, world.x, () -> world.x.seek(0x6161616161616161L, n));
+            noName("n " + n, 0x6161616161616161L, n);
         }
         for (int letter : new int[] {0, 'A', 'Z', '`', '{', 128 + 'a', 255}) {
-            CHECKS.refused("letter " + letter, IllegalArgumentException.class, world.x, () -> world.x.seek(letter, 1));
-            long second = letter << 8 | 'a';
-            CHECKS.refused("letter " + letter, IllegalArgumentException.class, world.x, () -> world.x.seek(second, 2));
-            long last = (long) letter << 24 | 0x616161;
-            CHECKS.refused("letter " + letter, IllegalArgumentException.class, world.x, () -> world.x.seek(last, 4));
-            CHECKS.due("a letter behind the name", world.x.seek(second, 1), 3);
+            noName("letter " + letter, letter, 1);
+            noName("letter " + letter, letter << 8 | 'a', 2);
+            noName("letter " + letter, (long) letter << 24 | 0x616161, 4);
+            CHECKS.due("a letter behind the name", withA().x.seek(letter << 8 | 'a', 1), 3);
         }
         TrustedUpdates x = new TrustedUpdates();
         CHECKS.refused("no name, nothing trusted", IllegalArgumentException.class, x, () -> x.seek(0, 1));
         CHECKS.refused("nothing trusted", IllegalStateException.class, x, () -> x.seek('a', 1));
+    }
+
+    private static void noName(String what, long w, int n) {
+        World world = withA();
+        CHECKS.refused(what, IllegalArgumentException.class, world.x, () -> world.x.seek(w, n));
+    }
+
+    private static World withA() {
+        World world = all();
+        World.targets(1, names("a"), World.NO).offerTo(world.x);
+        world.seek("a");
+        return world;
     }
 
     private static void needsAllThatVouches() {

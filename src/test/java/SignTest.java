@@ -104,23 +104,23 @@ public final class SignTest {
     }
 
     private static void refusesWhatIsNoDocument() {
-        TrustedUpdates x = new TrustedUpdates();
-        CHECKS.refused("sign of nothing", IllegalArgumentException.class, x, () -> x.sign(0));
+        noDocument("nothing", new Doc());
         Doc signed = ROOT.signed(0, 1);
         for (int size = 1; size < signed.bytes.length; size++) {
             if (size != ROOT.bytes.length) {
-                signed.cut(size).draftIn(x);
-                CHECKS.refused("sign of the first " + size, IllegalArgumentException.class, x, () -> x.sign(0));
+                noDocument("the first " + size, signed.cut(size));
             }
         }
-        signed.with(0).draftIn(x);
-        CHECKS.refused("sign with a byte behind", IllegalArgumentException.class, x, () -> x.sign(0));
-        ROOT.signed().with(0).draftIn(x);
-        CHECKS.refused("sign with a byte behind no signatures", IllegalArgumentException.class, x, () -> x.sign(0));
-        ROOT.signed(0, 1, 2, 3, 4, 5).altered(ROOT.bytes.length, 7).with(1, 1, 1, 1, 1).draftIn(x);
-        CHECKS.refused("sign with seven", IllegalArgumentException.class, x, () -> x.sign(0));
-        ROOT.with(1, 10, 0, 0, 0, 0).draftIn(x);
-        CHECKS.refused("sign behind key 10", IllegalArgumentException.class, x, () -> x.sign(0));
+        noDocument("a byte behind", signed.with(0));
+        noDocument("a byte behind no signatures", ROOT.signed().with(0));
+        noDocument("seven", ROOT.signed(0, 1, 2, 3, 4, 5).altered(ROOT.bytes.length, 7).with(1, 1, 1, 1, 1));
+        noDocument("key 10", ROOT.with(1, 10, 0, 0, 0, 0));
+    }
+
+    private static void noDocument(String what, Doc draft) {
+        TrustedUpdates x = new TrustedUpdates();
+        draft.draftIn(x);
+        CHECKS.refused("sign of " + what, IllegalArgumentException.class, x, () -> x.sign(0));
     }
 
     private static void namesTheFirstThatFits() {

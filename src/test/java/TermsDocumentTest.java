@@ -440,7 +440,8 @@ public final class TermsDocumentTest {
     }
 
     static void namesThatDifferInTheirLastLetterAreSound() {
-        soundTargets(Doc.target("abcd", 1, 1), Doc.target("abce", 1, 1), Doc.target("ab", 1, 1), Doc.target("aa", 1, 1));
+        soundTargets(Doc.target("abcd", 1, 1), Doc.target("abce", 1, 1), Doc.target("ab", 1, 1), Doc.target("aa", 1,
+                1));
     }
 
     // "then how many DELEGATIONS, at most 3"
@@ -453,7 +454,8 @@ public final class TermsDocumentTest {
     }
 
     static void fourDelegationsAreMalformed() {
-        malformedDelegations(Doc.delegation(4, 0, SET, ""), Doc.delegation(5, 0, SET, ""), Doc.delegation(6, 0, SET, ""),
+        malformedDelegations(Doc.delegation(4, 0, SET, ""), Doc.delegation(5, 0, SET, ""), Doc.delegation(6, 0, SET,
+                ""),
                 Doc.delegation(4, 0, SET, ""));
     }
 
@@ -490,8 +492,10 @@ public final class TermsDocumentTest {
     }
 
     static void aRoleTwiceWithAnotherBetweenIsMalformed() {
-        malformedDelegations(Doc.delegation(5, 0, SET, ""), Doc.delegation(4, 0, SET, ""), Doc.delegation(5, 0, SET, ""));
-        malformedDelegations(Doc.delegation(6, 0, SET, ""), Doc.delegation(4, 0, SET, ""), Doc.delegation(4, 0, SET, ""));
+        malformedDelegations(Doc.delegation(5, 0, SET, ""), Doc.delegation(4, 0, SET, ""), Doc.delegation(5, 0, SET,
+                ""));
+        malformedDelegations(Doc.delegation(6, 0, SET, ""), Doc.delegation(4, 0, SET, ""), Doc.delegation(4, 0, SET,
+                ""));
     }
 
     // "1 if it is FINAL, else 0"
