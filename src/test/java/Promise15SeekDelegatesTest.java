@@ -85,6 +85,12 @@ public final class Promise15SeekDelegatesTest {
         new Net().role(3, NO, to(4, "abc")).role(4, names("ab")).missing("ab", 1);
     }
 
+    static void aPrefixThatOnlyTheNameBeforeBeganWithDoesNotFit() {
+        new Net().role(3, NO, to(4, "ab")).role(4, names("abcd", "a")).finds("abcd", 4, 2).missing("a", 1)
+                .finds("abcd", 4, 2);
+        new Net().role(3, NO, to(4, "abc")).role(4, names("abc", "ab")).finds("abc", 4, 2).missing("ab", 1);
+    }
+
     static void aPrefixThatDiffersInItsLastLetterDoesNotFit() {
         new Net().role(3, NO, to(4, "abc")).role(4, names("abd", "abdc")).missing("abd", 1).missing("abdc", 1);
     }

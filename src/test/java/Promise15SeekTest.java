@@ -51,6 +51,11 @@ public final class Promise15SeekTest {
                 .finds("zz", TrustedUpdates.NONE, 1).finds("abc", TrustedUpdates.NONE, 1);
     }
 
+    static void theLettersOfALongerNameBeforeDoNotCount() {
+        client().finds("azaz", 3, 1).finds("az", TrustedUpdates.NONE, 1).finds("zzz", 3, 1)
+                .finds("z", TrustedUpdates.NONE, 1);
+    }
+
     static void nothingIsFoundInEmptyTargets() {
         new Net().role(3, World.NO).missing("a", 1).missing("zzzz", 1);
     }
