@@ -4,8 +4,8 @@ import java.util.Random;
 
 /**
  * Every way in which TARGETS and the three DELEGATES can delegate to one another, each list of roles in each order:
- * 65,536 graphs. Which delegations are final, their keys and prefixes, who signed and who has the target is drawn by lot,
- * the same each time. What seek and visits answer must be what a walk over the graph itself tells.
+ * 65,536 graphs. Which delegations are final, their keys and prefixes, who signed and who has the target is drawn by
+ * lot, the same each time. What seek and visits answer must be what a walk over the graph itself tells.
  */
 public final class DelegationGraphsTest {
     private static final Checks CHECKS = new Checks();

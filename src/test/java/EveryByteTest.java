@@ -5,9 +5,9 @@ import java.util.function.Consumer;
 import java.util.function.LongSupplier;
 
 /**
- * Documents of every role with one byte of them changed to each of its values, left out, or one put between; each once
- * with the signatures as they were, and once signed anew. What begin, offer, sign and seek answer must be what the model
- * answers, so no byte of a document can be read another way than the document says.
+ * Documents of every role with one byte of them changed to each of its values, left out, or one put between; each
+ * once with the signatures as they were, and once signed anew. What begin, offer, sign and seek answer must be what
+ * the model answers, so no byte of a document can be read another way than the document says.
  */
 public final class EveryByteTest {
     private static final Checks CHECKS = new Checks();
@@ -30,7 +30,8 @@ public final class EveryByteTest {
             new int[][] {Doc.delegation(4, 0, Doc.keys(1, 4, 7), "ab"), Doc.delegation(6, 1, Doc.keys(2, 6, 8), "")});
     private static final Doc FOUR = Doc.targets(4, 6, END, new int[][] {Doc.targetOf("ab")},
             new int[][] {Doc.delegation(6, 0, Doc.keys(1, 6), "a")});
-    private static final Doc SIX = Doc.targets(6, 7, END, new int[][] {Doc.targetOf("c"), Doc.targetOf("b")}, new int[0][]);
+    private static final Doc SIX = Doc.targets(6, 7, END, new int[][] {Doc.targetOf("c"), Doc.targetOf("b")},
+            new int[0][]);
 
     public static void main(String[] args) {
         Doc[] roots = {FIRST_ROOT};
