@@ -45,6 +45,7 @@ public final class EveryByteTest {
         sweep("the first snapshot", stamped, SNAPSHOT.cut(11), 2);
         sweep("TARGETS", all, TARGETS, 3, 6);
         sweep("role 4", all, FOUR, 7, 6);
+        sweep("role 5, which the snapshot does not have", all, FOUR.altered(0, 5), 5);
         sweep("role 6", withoutSix, SIX, 8, 6);
         for (String answer : new String[] {"0", "1", "2", "3", "4", "6", "throws.IllegalArgumentException",
             "throws.IndexOutOfBoundsException", "throws.IllegalStateException", "throws.UnsupportedOperationException",
